@@ -572,16 +572,19 @@ public final class TwoHandles {
         return digits >= 0 && rest == 0;
     }
 
-    /** What TODAY of the trial is worth behind a TALK; -1 if nobody goes a step by it. */
+    /** What TODAY of the trial is worth behind a TALK; -1 if it can't be more than without. */
     private int worthBehindTalk(int goer, int other, int question) {
         int before = trial.thought(goer, question);
+        int rivals = trial.rivalsOf(goer, question, trial.gap);
+        int worth = -1;
         trial.stepTowards(goer, other, question);
-        if (trial.thought(goer, question) == before) {
-            return -1;
+        // Whoever wins nobody to work with opens nothing more; to plan each TALK anew would take long.
+        if ((trial.rivalsOf(goer, question, trial.gap) & ~rivals) != 0) {
+            plan.make(trial);
+            worth = plan.worthAtMost();
         }
-        plan.make(trial);
         trial.putThought(goer, question, before);
-        return plan.worthAtMost();
+        return worth;
     }
 
     private int worthOfRun(int rule, int days, int stiff) {
@@ -1053,6 +1056,16 @@ public final class TwoHandles {
             return Math.abs(mine - opinions[other * MOST_QUESTIONS + question]);
         }
 
+        /** The bits of those who could open a DOOR of a QUESTION with a PERSON, whatever their MINUTES. */
+        private int rivalsOf(int person, int question, int leastGap) {
+            int rivals = 0;
+            for (int p = 0; p < persons; p++) {
+                boolean strange = p != person && !town.areKin(p, person);
+                rivals |= strange && apart(p, person, question) >= leastGap ? 1 << p : 0;
+            }
+            return rivals;
+        }
+
         private void stepTowards(int person, int other, int question) {
             int mine = thought(person, question);
             putThought(person, question, mine + Integer.compare(thought(other, question), mine));
@@ -1284,13 +1297,8 @@ public final class TwoHandles {
 
         private void draw(Scene scene, int question, int gap) {
             persons = town.persons;
-            Arrays.fill(rivals, 0);
             for (int a = 0; a < persons; a++) {
-                for (int b = 0; b < persons; b++) {
-                    if (a != b && !town.areKin(a, b) && scene.apart(a, b, question) >= gap) {
-                        rivals[a] |= 1 << b;
-                    }
-                }
+                rivals[a] = scene.rivalsOf(a, question, gap);
             }
         }
 
