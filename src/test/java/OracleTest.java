@@ -201,6 +201,10 @@ public final class OracleTest {
                 tell(spoil(text));
             }
             tell(text);
+            int skipped = random.nextInt(4) == 0 ? upTo(29) : 0;
+            for (int day = 0; day < skipped; day++) {
+                call("next");
+            }
             int end = Math.min(CALLS_A_RUN - 90, calls + 400 / towns);
             while (calls < end) {
                 drawCall();
@@ -218,6 +222,16 @@ public final class OracleTest {
         }
     }
 
+    private void fewOnly() throws IllegalAccessException {
+        for (int i = 0; i < 8; i++) {
+            tell(drawTown());
+            for (int bits = 3; bits < 32; bits++) {
+                call("few", bits, 0, 0);
+                call("few", bits, 0, 1);
+            }
+        }
+    }
+
     public static void main(String[] args) throws IllegalAccessException {
         int scale = args.length > 0 ? Integer.parseInt(args[0]) : 1;
         int runs = 0;
@@ -231,6 +245,12 @@ public final class OracleTest {
         for (int i = 0; i < 2000 * scale; i++) {
             OracleTest t = new OracleTest(5000000 + i, 8);
             t.readOnly();
+            runs++;
+            calls += t.calls;
+        }
+        for (int i = 0; i < 100 * scale; i++) {
+            OracleTest t = new OracleTest(9000000 + i, 5);
+            t.fewOnly();
             runs++;
             calls += t.calls;
         }

@@ -143,6 +143,12 @@ public final class PromiseTest {
         faultIs("asks 1; 4", 1, 8);
         faultIs("asks 1;pers", 1, 7);
         faultIs("asks 1;people 1 1;", 1, 7);
+        faultIs("asks 1;gapz 4;", 1, 7);
+        faultIs("asks 1;gapa 4;", 1, 7);
+        faultIs("asks 1;gap{4;", 1, 10);
+        faultIs("asks 1;gap`4;", 1, 10);
+        faultIs("asks 1;gap :;", 1, 11);
+        faultIs("asks 1;gap /;", 1, 11);
         faultIs("asks 1;person 0 0", 1, 17);
         faultIs("asks 1;person 0", 1, 15);
         faultIs("asks 1;person 0 x;", 1, 16);
@@ -715,6 +721,10 @@ public final class PromiseTest {
         c.due("29 soonest of three", ways.few(11, 1, 1), 1);
         c.due("29 most of three", ways.few(11, 1, 0), 2);
         c.due("29 of that question", ways.few(11, 0, 0), 0);
+        // 4 and 5 come to 3 both, then 4's man to 0 and only then the other one to 3 less 2: by a longer way.
+        TwoHandles longer = Check.in("asks 1;person 0 0;person 4 4;person 5 2;gap 3;");
+        c.due("29 by the longer way", longer.few(7, 0, 0), 4);
+        c.due("29 by the shorter way", longer.few(7, 0, 1), 3);
         c.dueIllegalArgument("29 one", () -> x.few(1, 0, 0));
         c.dueIllegalArgument("29 none", () -> x.few(0, 0, 0));
         c.dueIllegalArgument("29 no such person", () -> x.few(17, 0, 0));
@@ -864,9 +874,11 @@ public final class PromiseTest {
         c.due("39 the first of alike rows", three.twoDays(1), 101);
         c.due("39 and the second", three.twoDays(2), 201);
         TwoHandles last = Check.in("asks 1;person 0 0;person 8 0;door 5 1 29;door 6 1 29;");
-        for (int day = 0; day < 29; day++) {
+        for (int day = 0; day < 28; day++) {
             last.next();
         }
+        c.due("39 the last day is the next", last.twoDays(0), 11);
+        last.next();
         c.due("39 there is no next day", last.twoDays(0), 6);
         c.due("39 the last day", last.twoDays(1), 101);
         c.due("39 none behind it", last.twoDays(2), NONE);
