@@ -631,7 +631,7 @@ public final class PromiseTest {
         x.work(1, 0, 1);
         c.due("26 doors open already count", x.run(0, 1, 2), 2);
         c.due("26 their worth does not", x.run(0, 1, 0), 10);
-        c.due("26 minutes that are left", x.run(0, 1, 3), 12 + 11);
+        c.due("26 minutes that are left", x.run(0, 1, 3), 23);
         c.dueIllegalArgument("26 rule 4", () -> x.run(4, 1, 0));
         c.dueIllegalArgument("26 rule -1", () -> x.run(-1, 1, 0));
         c.dueIllegalArgument("26 days 0", () -> x.run(0, 0, 0));
