@@ -273,8 +273,12 @@ public final class TwoHandles {
         int most = plan.worthAtMost();
         int chosen = NONE;
         for (int goer = 0; goer < town.persons; goer++) {
+            int sidesSeen = 0;
             for (int other = 0; other < town.persons; other++) {
-                int worth = worthBehindTalk(goer, other, question);
+                // All who are on one side of him lead him to the same step: the first of them stands for all.
+                int side = 1 << trial.stepTo(goer, other, question) + 1;
+                int worth = (sidesSeen & side) == 0 ? worthBehindTalk(goer, other, question) : -1;
+                sidesSeen |= side;
                 if (worth > most) {
                     most = worth;
                     chosen = 10 * goer + other;
@@ -1066,9 +1070,13 @@ public final class TwoHandles {
             return rivals;
         }
 
+        /** The step of a TALK: 1 up, -1 down, 0 if they are of one mind. */
+        private int stepTo(int person, int other, int question) {
+            return Integer.compare(thought(other, question), thought(person, question));
+        }
+
         private void stepTowards(int person, int other, int question) {
-            int mine = thought(person, question);
-            putThought(person, question, mine + Integer.compare(thought(other, question), mine));
+            putThought(person, question, thought(person, question) + stepTo(person, other, question));
         }
 
         private boolean isOpen(int door) {
@@ -1144,10 +1152,12 @@ public final class TwoHandles {
     /** TODAY: for every set of PERSONS the best set of DOORS that they can open at one time. */
     private static final class Plan {
         private static final int DOOR_SETS = 1 << MOST_DOORS;
+        private static final int MOST_TWOS = MOST_SEATS * (MOST_SEATS - 1) / 2;
 
         private final Town town;
-        /** Of each DOOR and PERSON the bits of the greater PERSONS with whom he could open it. */
-        private final int[] mates = new int[MOST_DOORS * MOST_SEATS];
+        /** Of each DOOR all who could open it, two by two, as bits; the first two first. */
+        private final int[] twos = new int[MOST_DOORS * MOST_TWOS];
+        private final int[] howMany = new int[MOST_DOORS];
         /** WORTH times DOOR_SETS, less the bits of the DOORS: the greater is the better one. */
         private final int[] values = new int[1 << MOST_SEATS];
         private final int[] seated = new int[MOST_DOORS];
@@ -1159,43 +1169,40 @@ public final class TwoHandles {
 
         private void make(Scene scene) {
             persons = scene.persons;
-            Arrays.fill(mates, 0);
+            Arrays.fill(howMany, 0);
             Arrays.fill(values, 0, 1 << persons, 0);
             for (int d = 0; d < town.doors; d++) {
-                if (findMates(scene, d)) {
+                if (!scene.isOpen(d) && !scene.isTooLate(d)) {
+                    findTwos(scene, d);
                     offer(d);
                 }
             }
         }
 
-        /** Whether there are any two for a DOOR. */
-        private boolean findMates(Scene scene, int door) {
-            if (scene.isOpen(door) || scene.isTooLate(door)) {
-                return false;
-            }
-            boolean found = false;
+        private void findTwos(Scene scene, int door) {
+            int found = 0;
             for (int a = 0; a < persons; a++) {
                 for (int b = a + 1; b < persons; b++) {
-                    if (scene.errs(door, a, b) == 0) {
-                        mates[door * MOST_SEATS + a] |= 1 << b;
-                        found = true;
+                    if (scene.errs(door, a, b) == 0 && found < MOST_TWOS) {
+                        twos[door * MOST_TWOS + found] = 1 << a | 1 << b;
+                        found++;
                     }
                 }
             }
-            return found;
+            howMany[door] = found;
         }
 
         /** Takes a DOOR into the sets; falling, so that no set takes it twice. */
         private void offer(int door) {
             int gain = town.worth[door] * DOOR_SETS - (1 << door);
-            for (int group = (1 << persons) - 1; group > 0; group--) {
+            int first = door * MOST_TWOS;
+            int behind = first + howMany[door];
+            for (int group = behind > first ? (1 << persons) - 1 : 0; group > 0; group--) {
                 int most = values[group];
-                for (int a = 0; a < persons; a++) {
-                    int others = (group >> a & 1) != 0 ? mates[door * MOST_SEATS + a] & group : 0;
-                    for (int b = a + 1; others != 0 && b < persons; b++) {
-                        if ((others >> b & 1) != 0) {
-                            most = Math.max(most, values[group ^ 1 << a ^ 1 << b] + gain);
-                        }
+                for (int i = first; i < behind; i++) {
+                    int two = twos[i];
+                    if ((group & two) == two && values[group ^ two] + gain > most) {
+                        most = values[group ^ two] + gain;
                     }
                 }
                 values[group] = most;
@@ -1240,27 +1247,29 @@ public final class TwoHandles {
             if ((doors >> door & 1) == 0) {
                 return seat(plan, doors, free, door + 1);
             }
-            for (int a = 0; a < plan.persons; a++) {
-                int others = (free >> a & 1) != 0 ? plan.mates[door * MOST_SEATS + a] & free : 0;
-                for (int b = a + 1; others != 0 && b < plan.persons; b++) {
-                    int rest = free & ~(1 << a | 1 << b);
-                    if ((others >> b & 1) != 0 && seat(plan, doors, rest, door + 1)) {
-                        plan.seated[door] = 10 * a + b;
-                        return true;
-                    }
+            for (int i = 0; i < plan.howMany[door]; i++) {
+                int two = plan.twos[door * MOST_TWOS + i];
+                if ((free & two) == two && seat(plan, doors, free ^ two, door + 1)) {
+                    plan.seated[door] = asPair(two);
+                    return true;
                 }
             }
             return false;
         }
 
+        private static int asPair(int two) {
+            int greater = two & two - 1;
+            return 10 * Integer.numberOfTrailingZeros(two) + Integer.numberOfTrailingZeros(greater);
+        }
+
         /** The greatest WORTHS of DOORS that some two could open, so many of them, together. */
-        private int greatestWorths(int howMany) {
+        private int greatestWorths(int doorsAtMost) {
             int taken = 0;
             int sum = 0;
-            for (int i = 0; i < howMany; i++) {
+            for (int i = 0; i < doorsAtMost; i++) {
                 int most = NONE;
                 for (int d = 0; d < town.doors; d++) {
-                    boolean free = (taken >> d & 1) == 0 && canOpen(d);
+                    boolean free = (taken >> d & 1) == 0 && howMany[d] > 0;
                     if (free && (most == NONE || town.worth[d] > town.worth[most])) {
                         most = d;
                     }
@@ -1271,15 +1280,6 @@ public final class TwoHandles {
                 }
             }
             return sum;
-        }
-
-        private boolean canOpen(int door) {
-            for (int a = 0; a < persons; a++) {
-                if (mates[door * MOST_SEATS + a] != 0) {
-                    return true;
-                }
-            }
-            return false;
         }
     }
 
