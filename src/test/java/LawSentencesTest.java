@@ -75,6 +75,12 @@ public final class LawSentencesTest {
         s.of("Terms 4", "SOONEST: the fewest WORKS behind which no two can", () -> {
             fewIs("nothing to do", in("asks 1;person 0 1;person 3 1;"), 3, 0, 0);
             fewIs("at once to one mind", in("asks 1;gap 1;person 0 4;person 8 4;"), 3, 1, 1);
+            TwoHandles again = in("asks 1;gap 1;person 0 1;person 8 1;person 0 0;");
+            for (int i = 0; i < 3; i++) {
+                s.due("soonest first", again.few(3, 0, 1), 4);
+                s.due("at most then", again.few(3, 0, 0), 4);
+                s.due("for ever between", again.few(6, 0, 0), 8);
+            }
             s.due("two by two", in("asks 1;person 0 4;person 8 4;person 0 4;person 8 4;").few(15, 0, 1), 2);
         });
     }
@@ -268,6 +274,10 @@ public final class LawSentencesTest {
             y.work(0, 0, 1);
             s.due("nothing left to do today", y.starved(0), 0);
             s.due("on day 1 the slate is 0", onDay(turn + "door 5 1 9;", 1).starved(0), 1);
+            TwoHandles z = in("asks 1;person 0 0;person 8 0;door 5 31 0;day 30;");
+            s.due("it waits", z.starved(0), 0);
+            z.next();
+            s.due("no longer", z.starved(0), NONE);
         });
     }
 
@@ -301,6 +311,7 @@ public final class LawSentencesTest {
                 s.due("he is not led", x.firm(1, rule, 1), 0);
                 s.due("he does nothing", x.firm(2, rule, 1), 0);
             }
+            s.due("by 0 steps, not by 1", in("asks 1;person 0 4;person 4 0;door 5 1 9;door 6 1 9;").firm(0, 0, 1), 5);
             // By FIRM he is chosen first if he is stiff, and then all are too near.
             TwoHandles less = in("asks 1;person 6 4;person 4 2;person 0 3;person 6 3;door 7 1 0;door 7 1 0;door 7 1 0;");
             s.due("three works", less.run(2, 1, 1), 3);
@@ -324,7 +335,10 @@ public final class LawSentencesTest {
             twoIs("nothing", in(two), 0, NONE, NONE);
             twoIs("one", in(two + "door 5 1 9;"), 5, 1, NONE);
             twoIs("two", in(two + "door 5 1 9;door 6 1 9;"), 11, 1, 101);
-            twoIs("not two on one day", in(two + "door 5 1 0;door 6 1 0;"), 6, 101, NONE);
+            TwoHandles now = in(two + "door 5 1 0;door 6 1 0;");
+            s.due("two now", now.best(0), 11);
+            twoIs("not two on one day", now, 6, 101, NONE);
+            s.due("still two now", now.best(2), 101);
             twoIs("two of three", in(two + "door 5 1 9;door 6 1 9;door 7 1 9;"), 13, 101, 201);
             twoIs("the one of today first", in(two + "door 5 1 9;door 6 1 0;"), 11, 101, 1);
             twoIs("minutes anew", in(two + "door 5 30 9;door 6 30 9;day 30;"), 11, 1, 101);

@@ -214,6 +214,14 @@ public final class PromiseSentencesTest {
                 s.due("feigns of before", x.person(0, 2), 0);
                 s.same("as on a new object", x, twin);
             }
+            TwoHandles kin = in("asks 1;" + "person 0 0;".repeat(3) + "kin 0 1;kin 1 2;feigns 0 9;feigns 2 8;");
+            Check.tell(kin, "asks 1;" + "person 0 0;".repeat(3) + "kin 0 2;feigns 1 7;x");
+            s.due("three", Check.tell(kin, "asks 1;" + "person 0 0;".repeat(3)), 3);
+            s.due("no kin of before", kin.told(5), 0);
+            for (int p = 0; p < 3; p++) {
+                s.due("no kin of before", kin.person(p, 3), 0);
+                s.due("no feigns of before", kin.person(p, 2), 0);
+            }
             TwoHandles y = Sentences.full();
             y.town(0);
             s.due("nobody", Check.tell(y, "asks 1;"), 0);
@@ -659,6 +667,12 @@ public final class PromiseSentencesTest {
             s.due("two digits", Sentences.busy().stranger(NONE, 88, 0) * 0, 0);
             s.noSuchArgument("no town", TwoHandles::new, x -> x.stranger(NONE, 0, 0));
             s.due("a town of nobody", in("asks 1;door 3 1 9;").stranger(NONE, 0, 0), 0);
+            // With him two are enough for what takes four without him: need() must not know of him.
+            TwoHandles four = in("asks 2;person 00 0;person 80 0;person 00 0;person 80 0;door 3 1 9;door 3 1 9;door 6 1 9 1;");
+            s.due("without him", four.need(NONE, 1), 15);
+            s.due("as much by other ways", four.stranger(NONE, 88, 0), 3);
+            s.due("he is gone", four.need(NONE, 1), 15);
+            s.due("he is gone", four.today(NONE, 0), 6);
             s.keeps("nothing stays", Sentences::busy, x -> x.stranger(1, 44, 2), 0);
             s.keeps("with eight others", Sentences::full, x -> x.stranger(NONE, 4444, 4), 0);
         });

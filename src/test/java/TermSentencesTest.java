@@ -262,6 +262,9 @@ public final class TermSentencesTest {
             s.due("ten that do not", ten.judge(0), NONE);
             ten.row(9, 9, 0, 1);
             s.due("number 10", ten.judge(0), 101);
+            TwoHandles eight = in("asks 1;" + times(4, "person 0 0;person 8 0;") + times(10, "door 9 1 29;"));
+            judgedIs("the last of all", eight, NONE, 9, 29, 9, 7, 6);
+            judgedIs("the last one, and he himself", eight, 3, 0, 29, 9, 7, 7);
         });
         s.of("Terms 2", "6, ahead of these: its DAY is ahead of that to which one has come", () -> {
             judgedIs("ahead of 1", in(town), 16, 1, 1, 0, 0, 1, 0, 0, 0, 1);
@@ -401,6 +404,8 @@ public final class TermSentencesTest {
         });
         s.of("Terms 3", "DOOR by DOOR, rising, the first pair (the lesser PERSON, then the other one) by which all the others can still be had", () -> {
             pairsAre("four", in("asks 1;" + times(4, "person 0 0;person 8 0;") + times(4, "door 1 1 9;")), 1, 23, 45, 67);
+            pairsAre("each could with each", in("asks 1;gap 1;person 0 0;person 1 0;person 2 0;person 3 0;person 4 0;person 5 0;"
+                    + "person 6 0;person 7 0;" + times(5, "door 1 1 9;")), 1, 23, 45, 67, NONE);
             // Of question 1 only 0 and 3 disagree, so 0 is not for the first door.
             pairsAre("0 is needed behind", in("asks 2;person 00 0;person 80 0;person 00 0;person 08 0;kin 1 3;kin 2 3;"
                     + "door 1 1 9 0;door 1 1 9 1;"), 12, 3);
@@ -545,6 +550,8 @@ public final class TermSentencesTest {
             s.due("about that of the next day", in(slate).night(1), 1);
             s.due("and the other way", onDay(slate, 1).night(0), 1);
             s.due("nobody", in("asks 1;door 9 30 5;").night(0), NONE);
+            s.due("nobody to go down to", in("asks 1;person 3 0;person 8 0;gap 6;door 9 30 5;").night(0), NONE);
+            s.due("nobody to go up to", in("asks 1;person 0 0;person 5 0;gap 6;door 9 30 5;").night(0), NONE);
         });
         s.of("Terms 3", "of these the first (who goes, then to whom)", () -> {
             s.due("to whom", in("asks 1;person 3 0;person 0 0;person 1 0;person 8 0;kin 1 3;kin 2 3;gap 6;door 9 30 1;").night(0), 1);
@@ -579,6 +586,12 @@ public final class TermSentencesTest {
             // Only behind 0 and 1 are 1 and 2 far enough apart: 1 has come from 8 to 4.
             bestIs("the first makes room for the second", in("asks 1;person 0 1;person 8 4;person 8 0;kin 0 2;door 5 1 9;door 6 1 9;"),
                     11, 1, 112);
+            TwoHandles fewer = in("asks 1;person 0 0;person 8 0;door 5 1 9;door 6 1 9;");
+            bestIs("two", fewer, 11, 1, 101);
+            fewer.work(0, 0, 1);
+            bestIs("one is left", fewer, 6, 101, NONE);
+            fewer.work(1, 0, 1);
+            bestIs("none is left", fewer, 0, NONE, NONE);
             TwoHandles late = onDay("asks 1;person 0 0;person 8 0;door 5 1 0;door 6 1 1;door 7 1 1;", 1);
             late.work(2, 0, 1);
             bestIs("not what is open or too late", late, 6, 101, NONE);
@@ -618,6 +631,12 @@ public final class TermSentencesTest {
             firstWorkIs("0 together", 2, "asks 1;person 0 1;person 8 0;person 0 0;person 8 4;door 5 1 9;", 12);
             firstWorkIs("the most", 2, "asks 1;person 0 4;person 8 4;door 5 1 9;", 1);
             firstWorkIs("of those who do not err", 2, "asks 1;person 0 0;person 3 0;person 8 4;door 5 1 9;", 2);
+            // 0 and 1 disagree of question 0, 0 and 2 of question 1.
+            String people = "asks 2;person 00 0;person 80 1;person 08 2;kin 1 2;";
+            firstWorkIs("minutes no matter", 2, people + "door 5 1 9 0;door 5 240 9 1;", 1);
+            firstWorkIs("minutes no matter", 2, people + "door 5 240 9 0;door 5 1 9 1;", 1);
+            firstWorkIs("nor the order of doors", 2, people + "door 5 240 9 1;door 5 1 9 0;", 101);
+            firstWorkIs("nor the order of doors", 2, people + "door 5 1 9 1;door 5 240 9 0;", 101);
         });
         s.of("Terms 3", "3 WORTH: whose WORTH by MINUTES is greatest (fractions)", () -> {
             String two = "asks 1;person 0 0;person 8 0;";
@@ -647,6 +666,11 @@ public final class TermSentencesTest {
                 firstWorkIs("by door", rule, three + "door 2 60 9;door 4 120 9;door 4 120 9;", 101);
                 firstWorkIs("by lesser person", rule, "asks 1;person 4 0;person 0 0;person 8 0;person 0 0;kin 0 2;door 4 1 9;kin 0 1;kin 0 3;", 12);
                 firstWorkIs("by other one", rule, "asks 1;person 0 0;person 8 0;person 8 0;door 4 1 9;", 1);
+            }
+            String led = "asks 1;person 0 1;person 8 1;";
+            for (int rule = 0; rule < 3; rule++) {
+                firstWorkIs("whatever the minutes", rule, led + "door 3 1 9;door 4 240 9;door 4 1 9;", 101);
+                firstWorkIs("whatever the minutes", rule, led + "door 3 240 9;door 4 1 9;door 4 240 9;", 101);
             }
             firstWorkIs("worth does not come ahead of far", 0, "asks 2;person 00 0;person 87 0;door 1 1 9 0;door 9 1 9 1;", 1);
             firstWorkIs("nor of just", 1, "asks 2;person 00 0;person 78 0;door 1 1 9 0;door 9 1 9 1;", 1);

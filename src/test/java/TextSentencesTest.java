@@ -41,6 +41,16 @@ public final class TextSentencesTest {
             s.due("500 are told", y.town(500), 0);
             s.due("as they stand", y.told(3), 7);
             s.fault(1, "asks 1;" + times(488, " ") + "gap 7^");
+            // Whatever the last byte is, nothing is looked for behind it.
+            String[] ends = {"person^", "person 1234^", "person 1234 ^", "person 1234 4^", "kin^", "door 1 1 1^", "door 1 1 1 ^",
+                "door 1 1 1 0^", "slate 0123012^", "day 999^", "gap ^"};
+            for (String end : ends) {
+                s.fault(1, "asks 4;" + times(494 - end.length(), " ") + end);
+            }
+            s.fault(1, "asks 4;" + times(490, " ") + "^per");
+            s.fault(2, "asks 4;" + times(483, " ") + "person ^123");
+            s.fault(2, "asks 4;" + times(487, " ") + "gap ^10");
+            s.fine("asks 4;" + times(479, " ") + "person 1234 4;");
         });
         s.of(PART, "\"asks\" Q, and then { CLAUSE }, each with \";\" behind it", () -> {
             s.fine("asks 1;");
@@ -314,6 +324,12 @@ public final class TextSentencesTest {
             s.fault(1, "^askss 1;");
             s.fault(1, "^Asks 1;");
             s.fault(1, "^ASKS 1;");
+            for (String word : new String[] {"asks", "person", "feigns", "kin", "door", "gap", "day", "slate"}) {
+                for (int i = 0; i < word.length(); i++) {
+                    String other = word.substring(0, i) + (char) (word.charAt(i) + 1) + word.substring(i + 1);
+                    s.fault(1, word.equals("asks") ? "^" + other + " 1;" : "asks 1;person 0 0;person 0 0;^" + other + " 1 0 1;");
+                }
+            }
             s.fault(1, "asks 1;^gapp 4;");
             s.fault(1, "asks 1;^ga 4;");
             s.fault(1, "asks 1;^gapday 4;");
