@@ -229,14 +229,23 @@ final class Sentences {
         return x;
     }
 
-    /** A text with "^" ahead of the byte at which its FAULT of this kind is. */
+    /** A text with "^" ahead of the byte at which its FAULT of this kind is; further FAULTS behind it change nothing. */
     void fault(int kind, String marked) {
         int place = marked.indexOf('^');
         String text = marked.replace("^", "");
+        faultAt(kind, place, text);
+        for (String behind : new String[] {";gap 9;", ";;asks 9", " ;person 9 9;" + "door 1 1 1;".repeat(11)}) {
+            if (place < text.length() && text.length() + behind.length() <= 500) {
+                faultAt(kind, place, text + behind);
+            }
+        }
+    }
+
+    private void faultAt(int kind, int place, String text) {
         TwoHandles x = new TwoHandles();
-        due("town of '" + marked + "'", Check.tell(x, text), kind - 10);
-        due("fault of '" + marked + "'", x.fault(), place);
-        due("no town behind '" + marked + "'", x.told(0), 0);
+        due("town of '" + text + "'", Check.tell(x, text), kind - 10);
+        due("fault of '" + text + "'", x.fault(), place);
+        due("no town behind '" + text + "'", x.told(0), 0);
     }
 
     /** A text without a FAULT: the object that was told it. */
