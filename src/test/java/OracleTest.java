@@ -42,7 +42,10 @@ public final class OracleTest {
         try {
             return String.valueOf(m.invoke(on, args));
         } catch (InvocationTargetException e) {
-            return "throws " + e.getCause().getClass().getName();
+            StackTraceElement[] frames = e.getCause().getStackTrace();
+            // What the library or the machine throws by itself would come from elsewhere, or without a place.
+            boolean byItself = frames.length == 0 || !frames[0].getClassName().equals(on.getClass().getName());
+            return (byItself ? "the machine throws " : "throws ") + e.getCause().getClass().getName();
         }
     }
 
@@ -145,24 +148,59 @@ public final class OracleTest {
         call("fault");
     }
 
+    /** One of 0 to the greatest that may be, now and then the next one, which may not be. */
+    private int place(int howMany) {
+        return random.nextInt(30) == 0 ? howMany : upTo(Math.max(0, howMany - 1));
+    }
+
+    private int drawPersons() {
+        int bits = 0;
+        for (int i = 0; i < 4; i++) {
+            bits |= 1 << upTo(Math.max(0, y.told(1) - 1));
+        }
+        return bits;
+    }
+
+    private int drawThoughts() {
+        String told = digits(Math.max(1, y.told(0)), random.nextInt(20) == 0 ? 9 : 8);
+        return Integer.parseInt(random.nextInt(20) == 0 ? told + "0" : told);
+    }
+
+    /** How many numbers, from 0 on, the last parameter of a method may be. */
+    private static int whats(String method) {
+        switch (method) {
+            case "told": return 7;
+            case "door": case "count": return 5;
+            case "person": case "run": case "lot": case "starved": return 4;
+            case "best": case "twoDays": return 3;
+            default: return 2;
+        }
+    }
+
     /** Mostly what a parameter of this name may be, now and then what it may not be. */
     private Object drawArgument(String method, int place) {
-        if (random.nextInt(40) == 0) {
+        if (random.nextInt(60) == 0) {
             return new int[] {-2, -1, 31, 500, Integer.MIN_VALUE, Integer.MAX_VALUE}[upTo(5)];
         }
         switch (method + place) {
-            case "slate0": case "row0": return upTo(random.nextBoolean() ? 30 : 4);
-            case "few0": return upTo((1 << size) - 1);
-            case "run1": case "lot1": case "rule0": case "firm2": return 1 + upTo(random.nextBoolean() ? 3 : 29);
+            case "slate0": case "row0": return place(random.nextBoolean() ? 30 : 4);
+            case "few0": return drawPersons();
+            case "run1": case "lot1": case "rule0": case "firm2":
+                return 1 + place(random.nextBoolean() ? Math.min(4, 30 - y.count(0)) : 30 - y.count(0));
             case "lot3": return random.nextInt();
-            case "stranger1": return upTo(random.nextBoolean() ? 99 : 9999);
-            case "rest1": case "rest2": case "rest3": case "rest4": return 1 + upTo(100) % 99;
-            case "work0": case "may0": case "door0": case "row1": case "pair1": return upTo(size + 2);
+            case "stranger1": return drawThoughts();
+            case "rest1": case "rest2": case "rest3": case "rest4": return 1 + place(99);
+            case "work0": case "may0": case "door0": case "row1": case "pair1": return place(y.told(2));
             case "thinks0": case "person0": case "work1": case "work2": case "may1": case "may2": case "talk0":
-            case "talk1": case "row2": case "row3": case "rest0": case "firm0": return upTo(size);
-            case "family0": return upTo(size + 1) - 1;
-            case "today0": case "pair0": case "bound0": case "need0": case "stranger0": case "slack0": return upTo(4) - 1;
-            default: return upTo(4);
+            case "talk1": case "row2": case "row3": case "rest0": case "firm0": return place(y.told(1));
+            case "family0": return place(y.told(1) + 1) - 1;
+            case "today0": case "pair0": case "bound0": case "need0": case "stranger0": case "slack0":
+                return place(y.told(0) + 1) - 1;
+            case "thinks1": case "talk2": case "night0": case "few1": case "pairs0": case "edge0": case "once0":
+            case "calm0": return place(y.told(0));
+            case "run0": case "lot0": case "firm1": return place(4);
+            case "stranger2": return place(5);
+            default: return place(whats(method));
         }
     }
 
@@ -174,11 +212,7 @@ public final class OracleTest {
         if (name.equals("next") && random.nextInt(3) > 0) {
             return;
         }
-        Object[] args = new Object[faces.get(name).getParameterCount()];
-        for (int i = 0; i < args.length; i++) {
-            args[i] = drawArgument(name, i);
-        }
-        call(name, args);
+        askOf(name);
     }
 
     private void compareAll() throws IllegalAccessException {
@@ -223,11 +257,54 @@ public final class OracleTest {
     }
 
     private void fewOnly() throws IllegalAccessException {
-        for (int i = 0; i < 8; i++) {
+        for (int i = 0; i < 6; i++) {
             tell(drawTown());
-            for (int bits = 3; bits < 32; bits++) {
+            int persons = y.told(1);
+            for (int bits = 3; bits <= 1 << persons && bits < 32; bits++) {
                 call("few", bits, 0, 0);
                 call("few", bits, 0, 1);
+            }
+        }
+    }
+
+    /** A town in which much can be opened for long: elsewhere most DOORS are open or too late soon. */
+    private String drawWideTown() {
+        int asks = 1 + upTo(2);
+        int persons = 3 + upTo(size - 3);
+        StringBuilder s = new StringBuilder("asks " + asks + ";gap " + (2 + upTo(5)) + ";");
+        for (int i = 0; i < persons; i++) {
+            s.append("person ").append(digits(asks, 8)).append(' ').append(upTo(4)).append(';');
+        }
+        if (random.nextBoolean()) {
+            s.append("kin 0 ").append(1 + upTo(persons - 2)).append(';');
+        }
+        for (int i = 0; i < 2 + upTo(size - 2); i++) {
+            s.append("door ").append(1 + upTo(20)).append(' ').append(10 + upTo(150)).append(' ').append(29 - upTo(9));
+            s.append(random.nextInt(4) == 0 ? " " + upTo(asks - 1) : "").append(';');
+        }
+        s.append("day ").append(100 + upTo(200)).append(";slate ").append(digits(1 + upTo(6), asks - 1)).append(';');
+        return s.toString();
+    }
+
+    private void askOf(String name) throws IllegalAccessException {
+        Object[] args = new Object[faces.get(name).getParameterCount()];
+        for (int i = 0; i < args.length; i++) {
+            args[i] = drawArgument(name, i);
+        }
+        call(name, args);
+    }
+
+    private void wideOnly() throws IllegalAccessException {
+        String[] asked = {"today", "pair", "pair", "bound", "need", "choose", "stranger", "stranger", "night", "night", "night",
+            "best", "run", "lot", "rule", "starved", "slack", "firm", "firm", "firm", "twoDays", "judge", "calm", "once"};
+        String[] done = {"work", "talk", "talk", "next", "row", "row", "image", "restore"};
+        tell(drawWideTown());
+        for (int i = 0; i < 8; i++) {
+            for (String name : asked) {
+                askOf(name);
+            }
+            for (int k = upTo(4); k >= 0; k--) {
+                askOf(done[upTo(done.length - 1)]);
             }
         }
     }
@@ -251,6 +328,12 @@ public final class OracleTest {
         for (int i = 0; i < 100 * scale; i++) {
             OracleTest t = new OracleTest(9000000 + i, 5);
             t.fewOnly();
+            runs++;
+            calls += t.calls;
+        }
+        for (int i = 0; i < 300 * scale; i++) {
+            OracleTest t = new OracleTest(7000000 + i, i % 30 == 0 ? 8 : 4 + i % 3);
+            t.wideOnly();
             runs++;
             calls += t.calls;
         }
